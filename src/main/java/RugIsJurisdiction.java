@@ -713,22 +713,21 @@ public final class RugIsJurisdiction {
                     stack[top - 1] = -stack[top - 1];
                 } else if (top > 1) {
                     top--;
-                    stack[top - 1] = joined(code, stack[top - 1], stack[top]);
+                    int a = stack[top - 1];
+                    int b = stack[top];
+                    switch (code) {
+                        case OR: a = a != 0 || b != 0 ? 1 : 0; break;
+                        case AND: a = a != 0 && b != 0 ? 1 : 0; break;
+                        case LESS: a = a < b ? 1 : 0; break;
+                        case EQUAL: a = a == b ? 1 : 0; break;
+                        case PLUS: a += b; break;
+                        case MINUS: a -= b; break;
+                        default: a *= b;
+                    }
+                    stack[top - 1] = a;
                 }
             }
             return stack[0];
-        }
-
-        static int joined(int sign, int a, int b) {
-            switch (sign) {
-                case OR: return a != 0 || b != 0 ? 1 : 0;
-                case AND: return a != 0 && b != 0 ? 1 : 0;
-                case LESS: return a < b ? 1 : 0;
-                case EQUAL: return a == b ? 1 : 0;
-                case PLUS: return a + b;
-                case MINUS: return a - b;
-                default: return a * b;
-            }
         }
     }
 

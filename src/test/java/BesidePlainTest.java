@@ -121,7 +121,8 @@ public final class BesidePlainTest {
                 return false;
             }
         }
-        return true;
+        return sort > 1 || agreesOn(method(face, "walk"), new Object[] {s, lots.nextInt(4)})
+            && agreesOn(method(face, "visit"), new Object[] {s});
     }
 
     private boolean agreesOn(Method m, Object[] arguments) throws Exception {

@@ -55,6 +55,13 @@ public final class BestTest {
         x.put(0, 0, 35);
         place(x, 0, 35, 0);
         due.is("asleep where it lies", x.told(0, 6), 1);
+        RugIsJurisdiction y = Due.under("fines 1 ; admits 1 ; sleeps row < 5 or column < 5 ;");
+        y.spread(0, 6);
+        place(y, 0, 6, 0);
+        y.put(0, 0, 1);
+        place(y, 0, 1, 0);
+        y.put(0, 0, 0);
+        place(y, 0, 3535, 1);
     }
 
     private static void freestIs(RugIsJurisdiction x, int hour, int fined) {
@@ -85,11 +92,15 @@ public final class BestTest {
         freestIs(y, 23, 16);
         y.force(Due.text(y, "fines 1 + hour ; admits 1 ; sleeps 0 ;"));
         freestIs(y, 0, 4);
+        y.force(Due.text(y, "fines 5 - (hour = 1) ; admits 1 ; sleeps hour = 22 and column = 1 ;"));
+        freestIs(y, 1, 16);
         RugIsJurisdiction z = Due.under("fines 5 ; admits 1 ; sleeps hour < 14 and 2 < hour ;");
         z.spread(20, 0);
         freestIs(z, 3, 0);
         z.force(Due.text(z, "fines 5 ; admits 1 ; sleeps 0 ;"));
         freestIs(z, 14, 0);
+        z.force(Due.text(z, "fines 5 ; admits 1 ; sleeps hour = 0 ;"));
+        freestIs(z, 0, 0);
     }
 
     private static void foldIs(RugIsJurisdiction x, int r, int fined) {

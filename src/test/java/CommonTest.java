@@ -115,6 +115,11 @@ public final class CommonTest {
             x.force(t);
             due.is("fines of text " + t, x.asks(0, 0, 0), t == 0 ? 1 : 10 * t);
         }
+        RugIsJurisdiction z = new RugIsJurisdiction();
+        z.spread(0, 0);
+        Due.text(z, "fines 1 ; admits 1 ; sleeps not 1 ;");
+        z.force(Due.text(z, "fines 1 ; admits 1 ; sleeps 1 ;"));
+        due.is("nothing of a longer text stays", z.asks(2, 0, 0), 1);
         RugIsJurisdiction y = new RugIsJurisdiction();
         due.is("a fault", Due.text(y, "fines 1 x"), -108);
         due.is("the tape is empty by a fault, too", y.count(4), 0);
@@ -155,6 +160,10 @@ public final class CommonTest {
         fault("fines a", 6);
         fault("fines colum", 6);
         fault("fines columns", 6);
+        fault("fines xow", 6);
+        fault("fines roz", 6);
+        fault("fines xour", 6);
+        fault("xines 1", 0);
         fault("fines Row", 6);
         fault("fines rOw", 6);
         fault("fines row O", 10);
@@ -191,6 +200,12 @@ public final class CommonTest {
         fault("fines (((((1))))) + (((((1 + (", 29);
         fault("fines 1 ; admits ------1", 22);
         fault("fines 12345 ; !", 6);
+        fault(";".repeat(160), 0);
+        fault(" ".repeat(160), 160);
+        fault("fines 1" + " ".repeat(153), 160);
+        fault("fines 1" + " ".repeat(152) + "<", 160);
+        fault("z".repeat(160), 0);
+        fault("fines " + "1".repeat(154), 6);
         fault("fines 1 ! 12345", 8);
     }
 
@@ -325,7 +340,9 @@ public final class CommonTest {
         RugIsJurisdiction x = new RugIsJurisdiction();
         due.is("kindMore -1", x.spread(-1, 0), -2);
         due.is("kindMore 60", x.spread(60, 0), -2);
-        int[] bad = {-1, 36, 100, 106, 600, 605, 1201, 3536, 3600, 3500, Integer.MIN_VALUE, Integer.MAX_VALUE};
+        int[] bad = {
+            -1, -100, 36, 100, 106, 600, 605, 1040, 1201, 3536, 3599, 3600, 3500, Integer.MIN_VALUE, Integer.MAX_VALUE
+        };
         for (int corners : bad) {
             due.is("corners " + corners, x.spread(0, corners), -2);
         }

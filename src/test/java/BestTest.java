@@ -62,6 +62,9 @@ public final class BestTest {
         place(y, 0, 1, 0);
         y.put(0, 0, 0);
         place(y, 0, 3535, 1);
+        RugIsJurisdiction z = Due.under("fines 1 ; admits 1 ; sleeps row < 5 ;");
+        z.spread(0, 6);
+        place(z, 0, 6, 0);
     }
 
     private static void freestIs(RugIsJurisdiction x, int hour, int fined) {

@@ -2,7 +2,17 @@ import java.nio.charset.StandardCharsets;
 
 /** Counts and prints answers that are not as due; what several tests need to set an object up. */
 final class Due {
+    /** Makes an object as it stands ahead of a call; alike each time. */
+    interface Recipe {
+        RugIsJurisdiction make();
+    }
+
+    interface Call {
+        long on(RugIsJurisdiction x);
+    }
+
     private final String about;
+    private String sentence = "";
     private int asked = 0;
     private int wrong = 0;
 
@@ -14,8 +24,28 @@ final class Due {
         asked++;
         if (got != want) {
             wrong++;
-            System.out.println(about + ": " + call + " answered " + got + ", due is " + want);
+            System.out.println(about + ": " + sentence + call + " answered " + got + ", due is " + want);
         }
+    }
+
+    /** Which sentence of the document the answers from here on are due by. */
+    void by(String said) {
+        sentence = "\"" + said + "\" ";
+    }
+
+    /** A call answers that, and changes nothing that can be seen. */
+    void changesNothing(String call, Recipe recipe, Call made, long want) {
+        RugIsJurisdiction x = recipe.make();
+        is(call, made.on(x), want);
+        String[] is = Seen.of(x).split("\n");
+        String[] was = Seen.of(recipe.make()).split("\n");
+        String changed = "";
+        for (int i = 0; i < Math.max(is.length, was.length); i++) {
+            String a = i < was.length ? was[i] : "nothing";
+            String b = i < is.length ? is[i] : "nothing";
+            changed += a.equals(b) ? "" : " (" + a + ": now " + b + ")";
+        }
+        is(call + " changes" + changed, changed.isEmpty() ? 0 : 1, 0);
     }
 
     void end() {
@@ -49,6 +79,27 @@ final class Due {
     static RugIsJurisdiction under(String law) {
         RugIsJurisdiction x = new RugIsJurisdiction();
         x.force(text(x, law));
+        return x;
+    }
+
+    /** Something of all there is: four rugs, two texts, a tape, an image, a walk, told fines, ints, no sheet 3. */
+    static RugIsJurisdiction rich() {
+        RugIsJurisdiction x = new RugIsJurisdiction();
+        x.strikes(9);
+        x.spread(3, 7);
+        x.put(0, 1, 2);
+        x.image();
+        x.put(0, 1, 4);
+        x.spread(57, 215);
+        x.spread(25, 2435);
+        x.put(2, 1, 5);
+        x.spread(34, 1421);
+        x.strikes(17);
+        x.force(text(x, "fines 2 + column + guests ; admits guests < 9 ; sleeps hour < 3 ;"));
+        feed(x, "ab");
+        row(x, 0, 0, 0, 1, 2, 8, 14);
+        x.film(1, 7, 24);
+        row(x, 2, 2, 3, 14, 9, 3, 8, 35, 7);
         return x;
     }
 

@@ -425,6 +425,5 @@ public final class CommonTest {
         due.is("sleeps by the cell from which it lies", y.told(0, 6), 1);
         y.put(0, 0, 715);
         due.is("not by others", y.told(0, 6), 0);
-        due.is("asked of a cell, by that", y.asks(2, 0, 8), 1);
     }
 }

@@ -89,6 +89,17 @@ public final class BestBoundsTest {
         placeIs(y, 0, 1, 0);
         y.force(Due.text(y, "fines 1 ; admits 1 ; sleeps not (column = 4 and row = 0) ;"));
         placeIs(y, 0, 405, 2);
+        due.by("promise 19: Where a RUG, as wide and as deep as it is (never past the edge, though it would be awake there)");
+        RugIsJurisdiction z = Due.under("fines 1 ; admits 1 ; sleeps row < 5 ;");
+        z.spread(0, 6);
+        placeIs(z, 0, 6, 0);
+        z.put(0, 0, 5);
+        placeIs(z, 0, 3035, 6);
+        z.force(Due.text(z, "fines 1 ; admits 1 ; sleeps column < 5 ;"));
+        z.put(0, 0, 1);
+        placeIs(z, 0, 1, 0);
+        z.put(0, 0, 30);
+        placeIs(z, 0, 535, 6);
     }
 
     private static void promise19Refusals() {

@@ -68,6 +68,10 @@ public final class TextBoundsTest {
         accepts("fines1" + "+1".repeat(68) + " ;admits1;sleeps0;");
         fault(" ".repeat(161 - shortest.length()) + shortest.substring(0, shortest.length() - 1), 160);
         fault("fines1" + "+1".repeat(68) + ";admits1;sleeps0;x", 159);
+        fault(";".repeat(160), 0);
+        fault("fines" + "(".repeat(155), 10);
+        fault("fines" + "1".repeat(155), 5);
+        fault("z".repeat(160), 0);
     }
 
     private static void wordsAsLongAsCanBe() {
@@ -95,6 +99,7 @@ public final class TextBoundsTest {
             fault("fines " + cut + REST, 6);
             fault("fines " + tail + REST, 6);
             fault("fines " + other + REST, 6);
+            fault("fines " + (char) (word.charAt(0) + 1) + tail + REST, 6);
             fault("fines " + word + "s" + REST, 6);
             fault("fines 1 " + word + REST, word.equals("or") || word.equals("and") ? 9 + word.length() : 8);
             if (isName) {

@@ -554,7 +554,7 @@ public final class RugIsJurisdiction {
             return HOST_NULL;
         }
         boolean asGuests = kind == KINDS;
-        if (asGuests != i >= RUGS) {
+        if (asGuests ? i < RUGS : i >= RUGS) {
             return HOST_UNLIKE;
         }
         if (asGuests) {
@@ -1297,7 +1297,9 @@ public final class RugIsJurisdiction {
             for (int round = 0; round < CELLS && isBetter; round++) {
                 isBetter = false;
                 for (int c = 0; c < CELLS; c++) {
-                    isBetter |= cost[c] != NONE && lowersBeside(c, what);
+                    if (cost[c] != NONE && lowersBeside(c, what)) {
+                        isBetter = true;
+                    }
                 }
             }
             return cost[last];

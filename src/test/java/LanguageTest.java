@@ -42,6 +42,7 @@ public final class LanguageTest {
         due.is("method references", count(code, "::"), 0);
         due.is("texts joined by +", count(code, "\"\\s*\\+|\\+\\s*\""), 0);
         due.is("things made elsewhere than as fields", count(code, "(?m)^(?!.* ?final ).*\\bnew "), 0);
+        due.is("rule 10: arithmetic on booleans", count(code, "\\bis[A-Z]\\w*(\\[\\w+\\])? [|&^]= "), 0);
         due.is("static blocks", count(code, "static\\s*\\{"), 0);
         due.is("classes inside that are not static", count(code, "\\n +(?!.*\\bstatic\\b)[a-z ]*\\b(class|record|enum) "), 0);
         due.is("static fields that are not final", count(code, "\\bstatic (?!final)[a-z\\[\\]A-Z]+ [a-zA-Z]+( =|;)"), 0);
